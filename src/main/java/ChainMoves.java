@@ -385,7 +385,7 @@ public final class ChainMoves {
             return count;
         }
 
-        /** Of all that leave s by what they propose t for, the part that is taken, of all(s). */
+        /** ACCEPTED has the chance taken(s, t) / all(s): 1 / 1 from a weight of 0. */
         private int taken(int s, int t) {
             return weights[s] == 0 ? 1 : Math.min(weights[s], weights[t]);
         }
@@ -430,16 +430,15 @@ public final class ChainMoves {
             depth = newDepth;
             Arrays.fill(told, 0);
             Arrays.fill(toldSums, 0);
-            Arrays.fill(below, UNKNOWN);
         }
 
         private int toldOf(int s, int t) {
-            return told[cell(s, t)];
+            return told[s * MOST_STATES + t];
         }
 
         private int tell(int s, int t, int c) {
             int old = toldOf(s, t);
-            told[cell(s, t)] = c;
+            told[s * MOST_STATES + t] = c;
             toldSums[s] += c - old;
             return old;
         }
@@ -485,7 +484,7 @@ public final class ChainMoves {
                 a = b;
                 b = rest;
             }
-            return Math.max(a, 1);
+            return a > 0 ? a : 1;
         }
 
         private static boolean fitProduct(long x, long y) {
@@ -506,15 +505,8 @@ public final class ChainMoves {
             }
         }
 
-        private void plus(Fraction f) {
-            join(f, 1);
-        }
-
-        private void minus(Fraction f) {
-            join(f, -1);
-        }
-
-        private void join(Fraction f, int sign) {
+        /** Adds it with the sign 1, takes it off with the sign -1. */
+        private void add(int sign, Fraction f) {
             fits = fits && f.fits;
             // A 0 is 0 / 1 and changes nothing: this saves two greatest divisors.
             if (!fits || f.above == 0) {
@@ -575,7 +567,7 @@ public final class ChainMoves {
                 for (int s = 0; s < space.states && here.fits; s++) {
                     reckon(m, s, t, 0);
                     weigh(m, s, t, there);
-                    here.plus(there);
+                    here.add(1, there);
                 }
                 if (!here.fits) {
                     return LONG;
@@ -674,7 +666,7 @@ public final class ChainMoves {
             for (int u = 0; u < space.states; u++) {
                 if (u != s) {
                     tellOther(move, s, u, term);
-                    found.minus(term);
+                    found.add(-1, term);
                 }
             }
         }
@@ -736,7 +728,7 @@ public final class ChainMoves {
             moves[move.b].load(s, t, factor);
             term.set(move.q, both);
             term.times(factor);
-            found.plus(term);
+            found.add(1, term);
         }
 
         /** Reckons both moves' chances before it adds, as reckoning them needs the same fractions. */
@@ -750,7 +742,7 @@ public final class ChainMoves {
                 moves[move.a].load(s, r, term);
                 moves[move.b].load(r, t, factor);
                 term.times(factor);
-                found.plus(term);
+                found.add(1, term);
             }
         }
     }

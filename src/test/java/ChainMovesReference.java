@@ -1,9 +1,12 @@
 import java.math.BigInteger;
 import java.util.ArrayList;
+import java.util.Arrays;
 import java.util.HashMap;
+import java.util.HashSet;
 import java.util.List;
 import java.util.Map;
 import java.util.Random;
+import java.util.Set;
 import java.util.TreeSet;
 
 /**
@@ -14,19 +17,25 @@ public final class ChainMovesReference {
     private static final int BAD = -1, STATE = -2, FULL = -3, LONG = -4, DEEP = -5;
     private static final int RUNS = 1500;
     private static final int CALLS = 512;
+    // Runs in which a sum in keeps is LONG by what is above alone.
+    private static final int[] RARE_RUNS = {17204, 25742};
 
     private static int wrong = 0;
-    private static final Map<String, Integer> seen = new HashMap<>();
+    private static final Set<String> seen = new HashSet<>();
 
     public static void main(String[] args) {
         int runs = args.length > 0 ? Integer.parseInt(args[0]) : RUNS;
         long first = args.length > 1 ? Long.parseLong(args[1]) : 0;
         for (int run = 0; run < runs && wrong < 20; run++) {
             compareRun(run, new Random(first + run));
+            compareLong(run, new Random(first + run));
+        }
+        for (int run : RARE_RUNS) {
+            compareLong(run, new Random(run));
         }
         for (String needed : new String[] {"row LONG", "keeps 1", "keeps LONG",
             "goesBack 1", "goesBack 0", "goesBack LONG", "move DEEP", "move FULL", "together <0"}) {
-            if (!seen.containsKey(needed)) {
+            if (!seen.contains(needed)) {
                 wrong++;
                 System.out.println("no call came to: " + needed);
             }
@@ -43,28 +52,62 @@ public final class ChainMovesReference {
         int style = random.nextInt(4);
         for (int i = 0; i < CALLS; i++) {
             String what = pick(random, i);
-            long[] a = arguments(what, random, y, style);
-            long got = call(x, what, a);
-            long want = y.call(what, a);
-            note(what, want);
-            if (got != want) {
-                wrong++;
-                System.out.println("run " + run + ", call " + i + ": " + what
-                        + java.util.Arrays.toString(a) + " answered " + got + ", due is " + want);
+            if (!isSame(run, x, y, what, arguments(what, random, y, style))) {
                 return;
             }
         }
     }
 
+    private static boolean isSame(int run, ChainMoves x, Slow y, String what, long... a) {
+        long got = call(x, what, a);
+        long want = y.call(what, a);
+        note(what, want);
+        if (got != want) {
+            wrong++;
+            System.out.println("run " + run + ": " + what + Arrays.toString(a)
+                    + " answered " + got + ", due is " + want);
+        }
+        return got == want;
+    }
+
+    /** Told moves of many chances, mixed and in cycles: their fractions come close to LONG, or to it. */
+    private static void compareLong(int run, Random random) {
+        ChainMoves x = new ChainMoves();
+        Slow y = new Slow();
+        long[][] sizes = {{3, 0, 0, 0}, {4, 0, 0, 0}, {5, 0, 0, 0}, {6, 0, 0, 0}, {2, 4, 0, 0}, {3, 3, 0, 0}};
+        isSame(run, x, y, "model", sizes[random.nextInt(sizes.length)]);
+        int most = random.nextBoolean() ? 1000 : 1 + random.nextInt(60);
+        int often = 1 + random.nextInt(3);
+        for (int s = 0; s < y.states; s++) {
+            isSame(run, x, y, "weight", s, 1 + random.nextInt(most));
+        }
+        for (int m = 0; m < 3; m++) {
+            isSame(run, x, y, "move", m == 2 ? random.nextInt(5) : 3, 0, 1);
+        }
+        for (int m = 0; m < 2; m++) {
+            for (int s = 0; s < y.states; s++) {
+                for (int t = 0; t < y.states; t++) {
+                    if (random.nextInt(often) == 0) {
+                        isSame(run, x, y, "chance", m, s, t, random.nextInt(101));
+                    }
+                }
+            }
+        }
+        for (int m = y.moves.size(); m < 7; m++) {
+            isSame(run, x, y, "move", 5 + random.nextInt(2), random.nextInt(m), random.nextInt(m));
+            isSame(run, x, y, "odds", m, 1 + random.nextInt(100), 1 + random.nextInt(100));
+        }
+        for (int m = 0; m < y.moves.size(); m++) {
+            isSame(run, x, y, "keeps", m);
+            isSame(run, x, y, "goesBack", m);
+            isSame(run, x, y, "row", m, random.nextInt(y.states), random.nextInt(y.states), 0);
+            isSame(run, x, y, "row", m, random.nextInt(y.states), random.nextInt(y.states), 1);
+        }
+    }
+
     private static void note(String what, long want) {
         String answer = want == LONG ? "LONG" : want == DEEP ? "DEEP" : want == FULL ? "FULL" : "" + want;
-        boolean isYesOrNo = what.equals("keeps") || what.equals("goesBack");
-        if (isYesOrNo || want < BAD) {
-            seen.merge(what + " " + answer, 1, Integer::sum);
-        }
-        if (what.equals("together") && want < -10) {
-            seen.merge("together <0", 1, Integer::sum);
-        }
+        seen.add(what.equals("together") && want < DEEP ? "together <0" : what + " " + answer);
     }
 
     private static final String[] CALLED = {"weight", "weight", "weight", "state", "value", "move", "move",
@@ -296,7 +339,7 @@ public final class ChainMovesReference {
             states = product;
             moves.clear();
             path.clear();
-            java.util.Arrays.fill(w, 1);
+            Arrays.fill(w, 1);
             return states;
         }
 
