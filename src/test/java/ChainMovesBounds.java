@@ -30,6 +30,8 @@ public final class ChainMovesBounds {
         movesComeAhead();
         deep();
         lowestTerms();
+        oneByOne();
+        inTheirOrder();
         firstIsZero();
         longProduct();
         longProductWithOdds();
@@ -37,6 +39,7 @@ public final class ChainMovesBounds {
         longDifference();
         longInKeeps();
         longSumInKeeps();
+        longProductsOfSums();
         longInGoesBack();
         Chain.end();
     }
@@ -404,10 +407,26 @@ public final class ChainMovesBounds {
 
     /** All weights being the same, the hub and each of the others have the chance 1 / its sum, both ways. */
     private static void tellStar(Chain c, int m, int hub, int first, int... sums) {
-        c.due(m, "move", TOLD, 0, 0);
+        tellWays(c, m, hub, first, evenWays(sums));
+    }
+
+    private static int[][] evenWays(int... sums) {
+        int[][] ways = new int[sums.length][];
         for (int i = 0; i < sums.length; i++) {
-            c.due(0, "chance", m, hub, first + i, 100).due(0, "chance", m, first + i, hub, 1);
-            tellRest(c, m, first + i, 8, sums[i] - 1);
+            ways[i] = new int[] {100, 1, sums[i]};
+        }
+        return ways;
+    }
+
+    /**
+     * Told ways between the hub and first, first + 1, .., eight at most: the hub's c, the c back, and the sum of
+     * all from there. With the same weights the chance is the lesser of both shares, which is that of the way back.
+     */
+    private static void tellWays(Chain c, int m, int hub, int first, int[]... ways) {
+        c.due(m, "move", TOLD, 0, 0);
+        for (int i = 0; i < ways.length; i++) {
+            c.due(0, "chance", m, hub, first + i, ways[i][0]).due(0, "chance", m, first + i, hub, ways[i][1]);
+            tellRest(c, m, first + i, first + Math.max(ways.length, 7), ways[i][2] - ways[i][1]);
         }
     }
 
@@ -417,6 +436,16 @@ public final class ChainMovesBounds {
             c.due(0, "chance", m, t, u, Math.min(left, 100));
             left -= Math.min(left, 100);
         }
+    }
+
+    /** All 16 states have that weight, and the hub, 0 or 15, has such ways. */
+    private static Chain heavyStar(int weight, int hub, int[]... ways) {
+        Chain c = new Chain().due(16, "model", 2, 2, 2, 2);
+        for (int s = 0; s < 16; s++) {
+            c.due(1, "weight", s, weight);
+        }
+        tellWays(c, 0, hub, hub == 0 ? 1 : 0, ways);
+        return c;
     }
 
     // Coprime, each pair a little below 512 * 512: their product is a little below 2^63.
@@ -437,13 +466,65 @@ public final class ChainMovesBounds {
         c.dueRow(above.longValueExact(), below.longValueExact(), 0, 0, 0).due(1, "goesBack", 0);
         Chain d = star(JUST_LONG).dueRow(1, 523, 0, 0, 7).dueRow(522, 523, 0, 7, 7);
         d.refuse(LONG, "row", 0, 0, 0, 0).refuse(LONG, "row", 0, 0, 0, 1).due(1, "goesBack", 0);
+        longDifferenceByItsProducts();
         // One way less, and it fits.
         d.due(100, "chance", 0, 0, 7, 0);
         long sixth = below.divide(BigInteger.valueOf(521)).longValueExact();
         d.due(sixth, "row", 0, 0, 0, 1);
     }
 
+    private static void longDifferenceByItsProducts() {
+        Chain.sentence("LONG, if b (d / g) of a difference does not fit, though a (d / g) and c (b / g) do");
+        // b (d / g) is a little above 2^64: what is left of it in a long is 16892838989370746.
+        Chain c = heavyStar(1, 0, new int[][] {{100, 100, 201}, {15, 45, 661}, {15, 45, 649}, {15, 45, 713},
+            {15, 45, 694}, {15, 45, 673}, {15, 45, 643}});
+        c.dueRow(45, 643, 0, 0, 7).refuse(LONG, "row", 0, 0, 0, 0).refuse(LONG, "row", 0, 0, 0, 1);
+        Chain.sentence("A difference fits also where the sum of both would not");
+        Chain d = heavyStar(1, 0, new int[][] {{15, 1, 599}, {15, 1, 557}, {15, 1, 619}, {15, 1, 593}, {15, 1, 601},
+            {15, 1, 623}, {100, 100, 201}});
+        d.dueRow(4538891013863269955L, 9216922505655685863L, 0, 0, 0);
+    }
+
+    private static void oneByOne() {
+        Chain.sentence("3, from s to s: 1 less CHANCE(s, t) of all others t, one by one");
+        // 1 less the two of 202 is 1 / 2: ahead of the others they leave room for these, behind them they don't fit.
+        int[][] ways = {{100, 51, 202}, {100, 50, 202}, {15, 1, 623}, {15, 1, 621}, {15, 1, 619}, {15, 1, 629},
+            {15, 1, 617}, {15, 1, 593}};
+        heavyStar(1, 0, ways).dueRow(54041576153880577L, 110227712385617946L, 0, 0, 0);
+        int[][] behind = {ways[2], ways[3], ways[4], ways[5], ways[6], ways[7], ways[0], ways[1]};
+        heavyStar(1, 0, behind).refuse(LONG, "row", 0, 0, 0, 0).refuse(LONG, "row", 0, 0, 0, 1);
+        heavyStar(1, 15, ways).due(110227712385617946L, "row", 0, 15, 15, 1);
+        heavyStar(1, 15, behind).refuse(LONG, "row", 0, 15, 15, 1);
+    }
+
+    private static void inTheirOrder() {
+        Chain.sentence("6: over all STATES r in their order, added up from 0 on");
+        // By the two of 101 together it is 1 / 8.
+        int[][] ways = {{51, 101}, {50, 101}, {1, 519}, {1, 485}, {1, 523}, {1, 529}, {1, 553}, {1, 509}};
+        throughEight(ways).dueRow(19829087771206291L, 156819244767021480L, 2, 0, 15);
+        int[][] behind = {ways[2], ways[3], ways[4], ways[5], ways[6], ways[7], ways[0], ways[1]};
+        throughEight(behind).refuse(LONG, "row", 2, 0, 15, 0).refuse(LONG, "row", 2, 0, 15, 1);
+    }
+
+    /** No state has a weight: by move 0 from 0 to one of 1 .. 8, all alike, by move 1 from these to 15 as told. */
+    private static Chain throughEight(int[]... ways) {
+        Chain c = new Chain().due(16, "model", 2, 2, 2, 2).due(0, "move", TOLD, 0, 0).due(1, "move", TOLD, 0, 0);
+        for (int s = 0; s < 16; s++) {
+            c.due(1, "weight", s, 0);
+        }
+        for (int r = 1; r <= 8; r++) {
+            c.due(0, "chance", 0, 0, r, 1).due(0, "chance", 1, r, 15, ways[r - 1][0]);
+            tellRest(c, 1, r, 9, ways[r - 1][1] - ways[r - 1][0]);
+        }
+        return c.due(2, "move", CYCLE, 0, 1);
+    }
+
     private static void firstIsZero() {
+        Chain.sentence("6: CHANCE(s, r) by a times CHANCE(r, t) by b, added up, where the second is 0");
+        // From 0 the redraw leads to 0 and 8 alone, but the chance from 0 to 0 is LONG.
+        Chain zero = star(JUST_LONG).due(1, "move", REDRAW, 0, 0).due(2, "move", CYCLE, 0, 1);
+        zero.dueRow(0, 1, 1, 0, 5).refuse(LONG, "row", 2, 0, 5, 0).refuse(LONG, "row", 2, 0, 5, 1);
+        zero.dueRow(261, 523, 2, 7, 7);
         Chain.sentence("6: CHANCE(s, r) by a times CHANCE(r, t) by b, added up, also where the first is 0");
         Chain c = star(JUST_LONG).due(1, "move", REDRAW, 0, 0).due(2, "move", CYCLE, 1, 0);
         // A redraw of place 0 leads from 7 to 15 or stays: never to 0, whose own chance is LONG.
@@ -501,6 +582,35 @@ public final class ChainMovesBounds {
         e.refuse(LONG, "row", 6, 0, 0, 0).refuse(LONG, "row", 6, 0, 0, 1).due(LONG, "keeps", 6);
         dueFour(e, 4, p16, p16);
         dueFour(e, 5, p16, p15);
+        longProductBelowAlone();
+    }
+
+    private static void longProductBelowAlone() {
+        Chain.sentence("LONG, if b d of a product does not fit, though a c does");
+        Chain c = twoLegs(213, 149, 194, 176, 236, 179, 218, 231);
+        c.dueRow(12051409, 2167256256L, 4, 0, 1).dueRow(19933063, 4254646704L, 5, 1, 2);
+        c.dueRow(240221494835767L, 9220909686313780224L, 6, 0, 2);
+        // b d is a little above 2^64: what is left of it in a long is 2668329100893440.
+        Chain d = twoLegs(237, 221, 193, 216, 206, 197, 231, 169);
+        d.dueRow(13505099, 2911323168L, 4, 0, 1).dueRow(31965517, 6337122792L, 5, 1, 2);
+        d.refuse(LONG, "row", 6, 0, 2, 0).refuse(LONG, "row", 6, 0, 2, 1).due(5, "reach", 6, 0);
+    }
+
+    /** No state has a weight: from 0 through 3 .. 6 to 1, from there through 7 .. 10 to 2, each with 1 / its sum. */
+    private static Chain twoLegs(int... sums) {
+        Chain c = new Chain().due(16, "model", 2, 2, 2, 2);
+        for (int s = 0; s < 16; s++) {
+            c.due(1, "weight", s, 0);
+        }
+        for (int m = 0; m < 4; m++) {
+            c.due(m, "move", TOLD, 0, 0);
+        }
+        for (int i = 0; i < 8; i++) {
+            int leg = i / 4;
+            c.due(0, "chance", 2 * leg, leg, 3 + i, 1).due(0, "chance", 2 * leg + 1, 3 + i, leg + 1, 1);
+            tellRest(c, 2 * leg + 1, 3 + i, 11, sums[i] - 1);
+        }
+        return c.due(4, "move", CYCLE, 0, 1).due(5, "move", CYCLE, 2, 3).due(6, "move", CYCLE, 4, 5);
     }
 
     /** The hub's own chance has nearly 2^62 below: odds of 100 to 100 fit as 1 / 2, odds of 1 to 2 don't. */
@@ -560,25 +670,25 @@ public final class ChainMovesBounds {
 
     private static void longSumInKeeps() {
         Chain.sentence("keeps: LONG, if a sum of what is above does not fit, though both that are added do");
-        heavyStar(101, 619, 691, 633, 689, 607).due(1, "keeps", 0);
-        heavyStar(101, 623, 607, 673, 663, 671).refuse(LONG, "keeps", 0).due(1, "goesBack", 0);
+        // The last to be added for the hub is its own: 1000 L / L comes of it, L being the product of all sums.
+        heavyStar(1000, 15, evenWays(453, 451, 443, 463, 469, 467)).due(1, "keeps", 0);
+        Chain c = heavyStar(1000, 15, evenWays(449, 443, 471, 461, 469, 457));
+        c.refuse(LONG, "keeps", 0).due(1, "goesBack", 0);
+        // With these the hub's own and that of 1 come to 511 * 127 * 142123242012031, which is 2^63 - 1.
+        int[][] toTheBound = {{100, 1, 127}, {100, 23, 709}, {100, 65, 729}, {100, 15, 773}, {100, 70, 827},
+            {100, 91, 673}};
+        heavyStar(511, 0, toTheBound).due(1, "keeps", 0);
+        heavyStar(512, 0, toTheBound).refuse(LONG, "keeps", 0).due(1, "goesBack", 0);
     }
 
-    /**
-     * All weights are 1000, and the hub goes to 1 with 20 / 101, to the others with 25 / C. Then 1000 times
-     * what is left for itself has some 7 * 10^18 above, and with 20000 / 101 added it comes to the bound.
-     */
-    private static Chain heavyStar(int... sums) {
-        Chain c = new Chain().due(16, "model", 2, 2, 2, 2).due(0, "move", TOLD, 0, 0);
-        for (int s = 0; s < 16; s++) {
-            c.due(1, "weight", s, 1000);
-        }
-        for (int t = 1; t <= sums.length; t++) {
-            int back = t == 1 ? 20 : 25;
-            c.due(0, "chance", 0, 0, t, t == 1 ? 100 : 30).due(0, "chance", 0, t, 0, back);
-            tellRest(c, 0, t, 8, sums[t - 1] - back);
-        }
-        return c;
+    private static void longProductsOfSums() {
+        Chain.sentence("keeps: LONG, if a (d / g) or c (b / g) of a sum does not fit, though b (d / g) does");
+        Chain c = heavyStar(1000, 15, new int[][] {{70, 17, 113}, {71, 54, 349}, {96, 56, 277}, {83, 19, 112},
+            {57, 94, 761}, {56, 59, 487}, {25, 46, 846}});
+        c.refuse(LONG, "keeps", 0).due(1, "goesBack", 0);
+        Chain d = heavyStar(1000, 15, new int[][] {{1, 4, 433}, {1, 5, 534}, {1, 4, 428}, {1, 6, 641},
+            {1, 7, 751}, {1, 6, 644}, {100, 91, 97}});
+        d.refuse(LONG, "keeps", 0).due(1, "goesBack", 0);
     }
 
     private static void longInGoesBack() {

@@ -39,8 +39,13 @@ public final class ChainMovesCalls {
         keepsIsLongByNoWeight();
         goesBackRefused();
         goesBackOfEachPair();
+        goesBackInTheirOrder();
         reachOfItself();
         reachByARow();
+        reachOfEachKind();
+        reachOfMoves();
+        reachOfWhatMayStay();
+        reachOfWhatStaysByZero();
         reachWithoutFractions();
         reachRefused();
         runOfNoneAndMost();
@@ -317,7 +322,12 @@ public final class ChainMovesCalls {
             for (int m = 0; m < 10; m++) {
                 c.due(1, "keeps", m).due(3, "reach", m, 0).due(BAD, "odds", m, 1, 1);
             }
-            model(2, 3, 0, 0).due(0, "move", kind, 1, MAX).dueRow(1, kind == STEP ? 2 : 3, 0, 0, 2);
+            Chain d = model(2, 3, 0, 0).due(0, "move", kind, 1, 0).due(1, "move", kind, 1, MAX);
+            d.dueRow(1, kind == STEP ? 2 : 3, 1, 0, 2).due(1, "weight", 4, 3);
+            for (int seed = 0; seed < 40; seed++) {
+                d.due(d.ask("run", 0, 3, 9, seed * 1234567L), "run", 1, 3, 9, seed * 1234567L);
+                d.due(0, "visits", 0);
+            }
         }
         Chain told = model(2, 3, 0, 0);
         for (int m = 0; m < 10; m++) {
@@ -439,7 +449,7 @@ public final class ChainMovesCalls {
                 left -= Math.min(left, 100);
             }
         }
-        return c;
+        return c.due(9, "run", 0, 9, 5, 1);
     }
 
     private static void rowBadAheadOfLong() {
@@ -465,16 +475,18 @@ public final class ChainMovesCalls {
         }
     }
 
-    /** No state has a weight. From 0 it goes to one of 1 .. 7, all alike, and from these with 1 / a sum to 8. */
-    private static Chain longFromNoWeight(int... sums) {
+    private static final int[] TOO_MANY = {512, 511, 513, 509, 515, 503, 523};
+
+    /** No state has a weight. From s it goes to one of r .. r + 6, all alike, from these with 1 / a sum to t. */
+    private static Chain longFromNoWeight(int s, int r, int t, int... sums) {
         Chain c = new Chain().due(16, "model", 2, 2, 2, 2).due(0, "move", TOLD, 0, 0).due(1, "move", TOLD, 0, 0);
-        for (int s = 0; s < 16; s++) {
-            c.due(1, "weight", s, 0);
+        for (int u = 0; u < 16; u++) {
+            c.due(1, "weight", u, 0);
         }
-        for (int r = 1; r <= 7; r++) {
-            c.due(0, "chance", 0, 0, r, 1).due(0, "chance", 1, r, 8, 1);
-            for (int u = 9, left = sums[r - 1] - 1; left > 0; u++) {
-                c.due(0, "chance", 1, r, u, Math.min(left, 100));
+        for (int i = 0; i < 7; i++) {
+            c.due(0, "chance", 0, s, r + i, 1).due(0, "chance", 1, r + i, t, 1);
+            for (int u = r, left = sums[i] - 1; left > 0; u++) {
+                c.due(0, "chance", 1, r + i, u, Math.min(left, 100));
                 left -= Math.min(left, 100);
             }
         }
@@ -483,10 +495,13 @@ public final class ChainMovesCalls {
 
     private static void keepsIsLongByNoWeight() {
         Chain.sentence("Promises 10, 11: LONG by CHANCE(s, t), also where w(s) is 0");
-        Chain c = longFromNoWeight(512, 511, 513, 509, 515, 503, 523);
+        Chain c = longFromNoWeight(0, 1, 8, TOO_MANY).due(3, "run", 0, 3, 5, 1);
         c.refuse(LONG, "row", 2, 0, 8, 0).dueRow(1, 523, 2, 7, 8).due(1, "keeps", 0).due(1, "keeps", 1);
         c.refuse(LONG, "keeps", 2).refuse(LONG, "goesBack", 2).due(8, "reach", 2, 0);
-        Chain d = longFromNoWeight(2, 4, 8, 16, 32, 64, 128);
+        // The way back, from t to s, is LONG alone.
+        Chain back = longFromNoWeight(15, 1, 8, TOO_MANY).due(LONG, "row", 2, 15, 8, 0).dueRow(0, 1, 2, 8, 15);
+        back.refuse(LONG, "goesBack", 2).refuse(LONG, "keeps", 2);
+        Chain d = longFromNoWeight(0, 1, 8, 2, 4, 8, 16, 32, 64, 128);
         d.dueRow(127, 896, 2, 0, 8).due(1, "keeps", 2).due(1, "goesBack", 2);
     }
 
@@ -515,6 +530,32 @@ public final class ChainMovesCalls {
         }
     }
 
+    private static void goesBackInTheirOrder() {
+        Chain.sentence("Promise 11: goesBack: s in their order, t for each: LONG or 0, which comes first");
+        // From 0 to 8 it is LONG; 1 and 2 do not go back as they came.
+        Chain c = longFromNoWeight(0, 9, 8, TOO_MANY);
+        tellRound(c, 1, 2, 3);
+        c.due(LONG, "row", 2, 0, 8, 0).dueRow(0, 1, 2, 1, 2).dueRow(1, 1, 2, 2, 1).refuse(LONG, "goesBack", 2);
+        // From 1 to 9 it is LONG; 0 and 14 do not go back as they came.
+        Chain d = longFromNoWeight(1, 2, 9, TOO_MANY);
+        tellRound(d, 0, 14, 15);
+        d.due(LONG, "row", 2, 1, 9, 0).dueRow(0, 1, 2, 0, 14).dueRow(1, 1, 2, 14, 0).due(0, "goesBack", 2);
+        // From 1 to 0 it is LONG: that comes ahead of 0 and 14.
+        Chain both = longFromNoWeight(1, 2, 0, TOO_MANY);
+        tellRound(both, 0, 14, 15);
+        both.due(LONG, "row", 2, 1, 0, 0).refuse(LONG, "goesBack", 2);
+    }
+
+    /** These three get a weight of 1, and ways between the first two by move 0, the last two by move 1. */
+    private static void tellRound(Chain c, int... three) {
+        for (int s : three) {
+            c.due(0, "weight", s, 1);
+        }
+        for (int m = 0; m < 2; m++) {
+            c.due(0, "chance", m, three[m], three[m + 1], 1).due(0, "chance", m, three[m + 1], three[m], 1);
+        }
+    }
+
     private static void reachOfItself() {
         Chain.sentence("Promise 12: reach: (s too)");
         Chain c = Chain.line(0, 0, 0).due(0, "move", TOLD, 0, 0);
@@ -540,6 +581,81 @@ public final class ChainMovesCalls {
             for (int s = 0; s < 16; s++) {
                 c.due(all, "reach", 0, s).due(all / 2, "reach", 1, s).due(all, "reach", 2, s);
             }
+        }
+    }
+
+    private static void reachOfEachKind() {
+        Chain.sentence("Promise 12: reach: there is a chance above 0 for each");
+        for (int kind : new int[] {REDRAW, SLICE}) {
+            Chain c = model(2, 3, 0, 0).due(0, "move", kind, 1, 0).due(3, "reach", 0, 1).due(3, "reach", 0, 4);
+            c.due(1, "weight", 3, 0).due(2, "reach", 0, 4).due(2, "reach", 0, 5);
+            c.due(kind == REDRAW ? 3 : 1, "reach", 0, 3).due(1, "weight", 5, 0).due(1, "reach", 0, 4);
+            c.due(kind == REDRAW ? 2 : 1, "reach", 0, 3).due(1, "weight", 4, 0).due(1, "reach", 0, 3);
+            c.due(3, "reach", 0, 2);
+        }
+        Chain step = model(2, 4, 0, 0).due(0, "move", STEP, 1, 0).due(4, "reach", 0, 5).due(1, "weight", 4, 0);
+        step.due(3, "reach", 0, 5).due(4, "reach", 0, 4).due(1, "weight", 6, 0).due(1, "reach", 0, 5);
+        step.due(3, "reach", 0, 6).due(4, "reach", 0, 0);
+        Chain swap = model(2, 3, 2, 0).due(0, "move", SWAP, 0, 2).due(2, "reach", 0, 1).due(2, "reach", 0, 6);
+        swap.due(1, "reach", 0, 0).due(1, "reach", 0, 7).due(1, "weight", 1, 0).due(1, "reach", 0, 6);
+        swap.due(2, "reach", 0, 1);
+        Chain told = Chain.line(1, 1, 0).due(0, "move", TOLD, 0, 0).due(0, "chance", 0, 0, 1, 1);
+        told.due(1, "reach", 0, 0).due(0, "chance", 0, 1, 0, 1).due(2, "reach", 0, 0).due(0, "chance", 0, 1, 2, 1);
+        told.due(2, "reach", 0, 1).due(0, "chance", 0, 2, 1, 1).due(2, "reach", 0, 1).due(3, "reach", 0, 2);
+    }
+
+    private static void reachOfMoves() {
+        Chain.sentence("Promise 12: reach of 5 and 6, also where two lie in one another");
+        Chain c = model(2, 2, 2, 2);
+        for (int place = 0; place < 4; place++) {
+            c.due(place, "move", REDRAW, place, 0);
+        }
+        for (int kind = MIXED; kind <= CYCLE; kind++) {
+            int m = kind == MIXED ? 4 : 7;
+            c.due(m, "move", kind, 0, 1).due(m + 1, "move", kind, 2, 3).due(m + 2, "move", kind, m, m + 1);
+            c.due(4, "reach", m, 5).due(4, "reach", m + 1, 5).due(16, "reach", m + 2, 5);
+        }
+        Chain one = model(2, 3, 0, 0).due(0, "move", REDRAW, 1, 0).due(1, "move", TOLD, 0, 0);
+        for (int kind = MIXED; kind <= CYCLE; kind++) {
+            int m = kind == MIXED ? 2 : 6;
+            one.due(m, "move", kind, 0, 1).due(m + 1, "move", kind, 1, 0).due(m + 2, "move", kind, m, 1);
+            one.due(m + 3, "move", kind, 1, m + 1);
+            for (int k = m; k < m + 4; k++) {
+                one.due(3, "reach", k, 4).due(3, "reach", k, 0);
+            }
+        }
+    }
+
+    /** Twice the same between two states: it comes to the other one only if it may stay. */
+    private static void reachOfWhatMayStay() {
+        Chain.sentence("Promise 12: reach: of 6 those that some r leads on to, r being s where a may stay");
+        int[][] cases = {{1, 1, 1, 1}, {7, 7, 1, 1}, {2, 1, 2, 2}, {1, 2, 2, 2}, {0, 0, 1, 1}, {0, 1, 2, 1},
+            {1, 0, 1, 2}, {1000, 999, 2, 2}};
+        for (int[] each : cases) {
+            Chain c = new Chain().due(4, "model", 2, 2, 0, 0).due(0, "move", SWAP, 0, 1);
+            c.due(1, "weight", 1, each[0]).due(1, "weight", 2, each[1]).due(1, "move", TOLD, 0, 0);
+            c.due(0, "chance", 1, 1, 2, 1).due(0, "chance", 1, 2, 1, 1);
+            Chain step = Chain.line(each[0], each[1]).due(0, "move", STEP, 0, 0).due(1, "move", CYCLE, 0, 0);
+            step.due(each[2], "reach", 1, 0).due(each[3], "reach", 1, 1);
+            for (int m = 0; m < 2; m++) {
+                c.due(2 + m, "move", CYCLE, m, m).due(each[2], "reach", 2 + m, 1).due(each[3], "reach", 2 + m, 2);
+            }
+        }
+        // It may stay as there is no way back from 2, or as it is told to stay.
+        Chain c = Chain.line(1, 1, 1).due(0, "move", TOLD, 0, 0).due(1, "move", CYCLE, 0, 0);
+        c.due(0, "chance", 0, 0, 1, 1).due(0, "chance", 0, 1, 0, 1).due(1, "reach", 1, 0);
+        c.due(0, "chance", 0, 0, 2, 1).due(2, "reach", 1, 0).due(1, "chance", 0, 0, 2, 0).due(1, "reach", 1, 0);
+        c.due(0, "chance", 0, 0, 0, 1).due(2, "reach", 1, 0);
+    }
+
+    private static void reachOfWhatStaysByZero() {
+        Chain.sentence("Promise 12: reach: of 6 those that some r leads on to, r being s where a stays by a 0");
+        int[][] cases = {{REDRAW, 0, 1}, {REDRAW, 5, 0}, {SLICE, 0, 1}, {SLICE, 5, 1}, {TOLD, 0, 1}, {TOLD, 5, 1}};
+        for (int[] each : cases) {
+            // From 0 the second move goes to 2, from 1 nowhere.
+            Chain c = Chain.line(0, each[1], 0).due(0, "move", each[0], 0, 0).due(1, "move", TOLD, 0, 0);
+            c.due(0, "chance", 1, 0, 2, 1).due(2, "move", CYCLE, 0, 1).due(2, "reach", 2, 0);
+            c.due(each[2] == 1 ? 2 : each[1] > 0 ? 1 : 0, "run", 2, 0, 1, 3);
         }
     }
 

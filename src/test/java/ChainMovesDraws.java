@@ -42,29 +42,43 @@ public final class ChainMovesDraws {
         return ((x - 11) * inverse) & LOW_BITS;
     }
 
-    /** A seed whose first draws, of n, are d: told as n, d, n, d and so on. */
+    /** A seed whose first draws, of n, are d: told as n, d, n, d and so on; each time another one. */
     private static long seedFor(long... drawn) {
         int last = drawn.length - 2;
-        for (long q = drawn[last + 1]; q < 1L << 31; q += drawn[last]) {
-            for (long low = 0; low < 1L << 17; low++) {
-                long x = q << 17 | low;
-                int i = last;
-                while (i > 0) {
-                    x = before(x);
-                    i -= 2;
-                    if ((x >> 17) % drawn[i] != drawn[i + 1]) {
-                        break;
-                    }
-                    if (i == 0) {
-                        return before(x);
-                    }
-                }
-                if (last == 0) {
-                    return before(x);
+        seeds++;
+        // Far from 0, where a draw of another n would be the same.
+        long first = drawn[last + 1] + drawn[last] * (seeds * 7919 % (1 + (1L << 30) / drawn[last]));
+        for (long q = first; q < 1L << 31; q += drawn[last]) {
+            for (long i = 0; i < 1L << 17; i++) {
+                long x = q << 17 | (i + seeds * 4099) % (1L << 17);
+                if (drawsAhead(x, drawn)) {
+                    return before(numberAhead(x, last / 2));
                 }
             }
         }
         throw new IllegalStateException("no seed draws so");
+    }
+
+    private static long seeds = 0;
+
+    private static long numberAhead(long x, int draws) {
+        long ahead = x;
+        for (int i = 0; i < draws; i++) {
+            ahead = before(ahead);
+        }
+        return ahead;
+    }
+
+    /** Whether the draws ahead of the last, whose number is x, are as told. */
+    private static boolean drawsAhead(long x, long... drawn) {
+        long ahead = x;
+        for (int i = drawn.length - 4; i >= 0; i -= 2) {
+            ahead = before(ahead);
+            if ((ahead >> 17) % drawn[i] != drawn[i + 1]) {
+                return false;
+            }
+        }
+        return true;
     }
 
     private static void modulo48() {
@@ -246,6 +260,10 @@ public final class ChainMovesDraws {
         c.due(1, "run", 0, 0, 1, seedFor(1, 0, 7, 0)).due(1, "run", 0, 0, 1, seedFor(1, 0, 7, 2)).due(0, "refused");
         c.due(0, "run", 0, 0, 1, seedFor(1, 0, 7, 3)).due(1, "refused");
         c.due(0, "run", 0, 0, 1, seedFor(1, 0, 7, 6)).due(1, "refused");
+        // x and y are 1, the least that is taken.
+        Chain least = Chain.line(1, 1).due(0, "move", TOLD, 0, 0);
+        least.due(0, "chance", 0, 0, 1, 1).due(0, "chance", 0, 1, 0, 1);
+        least.due(1, "run", 0, 0, 199, 3).due(0, "refused").due(100, "visits", 1);
         // x is 999 * 100 * 100, y 1000 * 100 * 200.
         Chain most = Chain.line(1000, 999).due(0, "move", TOLD, 0, 0).due(0, "chance", 0, 0, 1, 100);
         most.due(0, "chance", 0, 1, 0, 100).due(0, "chance", 0, 1, 1, 100);
